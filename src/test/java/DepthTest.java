@@ -1,0 +1,184 @@
+/** Promises 3 and 4: what is deeper than 100 is refused at its first token. */
+public final class DepthTest {
+    private DepthTest() {
+    }
+
+    public static void main(String[] args) {
+        statements();
+        expressionsOfStatements();
+        brackets();
+        operators();
+        whatIsNotDeeper();
+        functions();
+        deepAndWide();
+        Check.end();
+    }
+
+    private static String times(int n, String part) {
+        StringBuilder out = new StringBuilder();
+        for (int i = 0; i < n; i++) {
+            out.append(part);
+        }
+        return out.toString();
+    }
+
+    /** What stands in the blocks has the depth. */
+    private static String at(int depth, String text) {
+        return times(depth - 1, "{") + text + times(depth - 1, "}");
+    }
+
+    /** The text has the depth 100 in all, its refused part, behind the mark, 101. */
+    private static void deepest(int parts, String marked) {
+        String plain = marked.substring(0, marked.indexOf('`')) + marked.substring(marked.indexOf('`') + 1);
+        Script.accepts(at(101 - parts, plain));
+        Script.refuses(at(102 - parts, marked));
+    }
+
+    private static void statements() {
+        Script.accepts(at(100, ";"));
+        Script.refuses(times(100, "{") + "`;");
+        Script.refuses(times(100, "{") + "`{");
+        Script.refuses(times(100, "{") + "`if");
+        Script.accepts(times(100, "{") + times(100, "}"));
+        deepest(2, "if (`a) ;");
+        deepest(2, "do `; while (a)");
+        deepest(2, "for (;;) `;");
+        deepest(3, "for (;;) for (;;) `;");
+        deepest(2, "try `{} finally {}");
+        deepest(3, "try { `; } finally {}");
+        deepest(3, "try {} catch (a) { `; }");
+        deepest(3, "try {} finally { `; }");
+        deepest(2, "`a: ;");
+        deepest(3, "a: `b: ;");
+        Script.accepts(at(100, "debugger"));
+        Script.accepts(at(100, "var a, b"));
+        Script.accepts("a: " + at(98, "break a"));
+        Script.accepts("a: while (b) " + at(98, "continue a"));
+        Script.accepts("a: " + at(99, "break a"));
+        Script.accepts("function f() " + at(100, "return"));
+        Script.refuses("function f() " + times(100, "{") + "`return");
+    }
+
+    private static void expressionsOfStatements() {
+        deepest(2, "`a");
+        deepest(2, "var a = `b");
+        deepest(2, "var a, c = `b");
+        deepest(2, "if (`a) ;");
+        deepest(2, "while (`a) ;");
+        deepest(2, "with (`a) ;");
+        deepest(2, "throw `a");
+        deepest(2, "switch (`a) {}");
+        deepest(3, "switch (a) { case b: { `; } }");
+        Script.refuses(at(100, "switch (`a) { default: ; }"));
+        deepest(3, "switch (a) { case (`b): ; }");
+        deepest(2, "for (`a;;) ;");
+        deepest(2, "for (var a = `b;;) ;");
+        deepest(2, "for (var a in `b) ;");
+        deepest(2, "for (`a in b) ;");
+        deepest(3, "for (a;;) for (`a;;) ;");
+        Script.refuses(at(100, "for (;`a;) ;"));
+        Script.refuses(at(100, "for (;;`a) ;"));
+        Script.refuses(at(100, "do `; while (a)"));
+        Script.refuses(at(100, "if (`a) b"));
+        Script.refuses(at(100, "for (;;) `;"));
+        Script.refuses("function f() " + at(100, "return `a"));
+    }
+
+    private static void brackets() {
+        deepest(3, "(`a)");
+        deepest(5, "(((`a)))");
+        deepest(3, "[`a]");
+        deepest(4, "[[`a]]");
+        deepest(3, "a(`b)");
+        deepest(3, "a[`b]");
+        deepest(4, "({a: `b})");
+        deepest(4, "[a, b, (`c)]");
+        Script.accepts(at(99, "[]"));
+        Script.accepts(at(99, "[ , , ]"));
+        Script.accepts(at(99, "a()"));
+        Script.accepts("(".repeat(98) + "a" + ")".repeat(98));
+        Script.refuses("(".repeat(99) + "`a" + ")".repeat(99));
+        Script.refuses("(".repeat(99) + "`(a" + ")".repeat(100));
+    }
+
+    private static void operators() {
+        deepest(3, "- `a");
+        deepest(4, "- - `a");
+        deepest(3, "typeof `a");
+        deepest(3, "++ `a");
+        deepest(3, "new `a");
+        deepest(4, "new new `a");
+        deepest(3, "new `a()");
+        Script.refuses(at(98, "new (`a)"));
+        Script.accepts(at(97, "new (a)"));
+        Script.accepts(at(98, "new a(b)"));
+        deepest(4, "new a((`b))");
+        deepest(3, "a + `b");
+        deepest(4, "a + b * `c");
+        deepest(3, "a = `b");
+        deepest(4, "a = b = `c");
+        deepest(3, "a, `b");
+        deepest(3, "a ? `b : c");
+        Script.refuses(at(99, "a ? `b : c"));
+        deepest(4, "a ? b : c ? `d : e");
+        deepest(4, "a ? b ? `c : d : e");
+        deepest(4, "a = b + `c");
+        deepest(3, "a in `b");
+        Script.accepts(times(98, "- ") + "a");
+        Script.refuses(times(99, "- ") + "`a");
+        Script.refuses(times(99, "- ") + "`- a");
+        Script.accepts(times(98, "a = ") + "a");
+        Script.refuses(times(99, "a = ") + "`a");
+        Script.refuses(times(99, "new ") + "`a");
+        Script.refuses(times(98, "a ? b : ") + "a ? `b : c");
+        Script.accepts(times(98, "a ? b : ") + "a");
+    }
+
+    private static void whatIsNotDeeper() {
+        Script.accepts(at(99, "a"));
+        Script.accepts(at(99, "a.b.c.d ++"));
+        Script.accepts(at(98, "a + b + c - d"));
+        Script.accepts(at(98, "a * b + c < d && e || f"));
+        Script.accepts(at(98, "a, b, c, d"));
+        Script.accepts(at(98, "a(b)(c)[d][e].f(g)"));
+        Script.accepts(times(400, "a + ") + "a");
+        Script.accepts(times(400, "a, ") + "a");
+        Script.accepts("a" + times(400, ".b"));
+        Script.accepts("a" + times(250, "[b]"));
+        Script.accepts("a" + times(300, "()"));
+        Script.accepts("[" + times(400, "a, ") + "]");
+        Script.accepts(times(400, ";"));
+        Script.accepts("var a" + times(200, ", a = b"));
+    }
+
+    private static void functions() {
+        Script.accepts(times(99, "function f() {") + ";" + times(99, "}"));
+        Script.refuses(times(100, "function f() {") + "`;");
+        Script.refuses(times(100, "function f() {") + "`function f() {}");
+        Script.accepts(times(100, "function f() {") + times(100, "}"));
+        Script.accepts("function f() {" + at(99, ";") + "}");
+        Script.refuses("function f() {" + times(99, "{") + "`;");
+        deepest(3, "a, `function () {}");
+        deepest(4, "a = function () { `; }");
+        deepest(4, "(function () { `; })");
+        deepest(4, "[function () { `; }]");
+        deepest(4, "({get a() { `; }})");
+        deepest(4, "({set a(b) { `; }})");
+        deepest(5, "({get a() { `b }})");
+        deepest(5, "({a: function () { `; }})");
+        deepest(5, "({get a() { function f() { `; } }})");
+        deepest(3, "(`function () {})");
+        deepest(4, "(- `function () {})");
+    }
+
+    private static void deepAndWide() {
+        // three levels a part: the statement, its expression, and what stands in the bracket
+        Script.accepts(times(33, "({get a() { ") + times(33, "}})"));
+        Script.refuses(times(33, "({get a() { ") + "`({}) " + times(33, "}})"));
+        Script.accepts(times(33, "({get a() { ") + ";" + times(33, "}})"));
+        Script.accepts(times(50, "for (var a = function () { ") + times(50, "};;) ;"));
+        Script.refuses(times(50, "for (var a = function () { ") + "`;");
+        Script.accepts(times(50, "var a = {get a() { ") + times(50, "}};"));
+        Script.refuses(times(50, "var a = {get a() { ") + "`;");
+    }
+}
