@@ -199,10 +199,11 @@ public final class SyntaxTree {
         static final int TEXT = 3;
         static final int SIGN = 4;
         static final int PATTERN = 5;
-        static final int EVAL = 0;
-        static final int ARGUMENTS = 1;
         static final int GET = 2;
         static final int SET = 3;
+        private static final int EVAL = 0;
+        private static final int ARGUMENTS = 1;
+        private static final int NO_NAME = -1;
         private static final int LAST_NAME = 999;
         private static final int FIRST_ROOM = 64;
 
@@ -274,46 +275,43 @@ public final class SyntaxTree {
             lines = Arrays.copyOf(lines, room);
         }
 
-        private boolean has(int i) {
-            return i >= 0 && i < count;
-        }
-
         int kind(int i) {
-            return has(i) ? kinds[i] : END;
+            return i >= 0 && i < count ? kinds[i] : END;
         }
 
         int name(int i) {
-            return has(i) ? names[i] : -1;
+            return i >= 0 && i < count ? names[i] : NO_NAME;
         }
 
         boolean line(int i) {
-            return has(i) && lines[i] == 1;
+            return i >= 0 && i < count && lines[i] == 1;
         }
 
         int sign(int i) {
-            return kind(i) == SIGN ? words[i] : Sign.NO_SIGN;
+            return i >= 0 && i < count && kinds[i] == SIGN ? words[i] : Sign.NO_SIGN;
         }
 
         /** The keyword that the token is: with an escape in it, it is none, though it stays reserved. */
         int keyword(int i) {
-            boolean keyword = kind(i) == NAME && words[i] <= Word.LAST_RESERVED;
-            return keyword ? words[i] : Word.NO_WORD;
+            boolean named = i >= 0 && i < count && kinds[i] == NAME;
+            return named && words[i] <= Word.LAST_RESERVED ? words[i] : Word.NO_WORD;
         }
 
-        boolean reserved(int i, boolean strict) {
-            if (kind(i) != NAME) {
+        /** Whether the token is a name that is not reserved. */
+        boolean identifier(int i, boolean strict) {
+            if (i < 0 || i >= count || kinds[i] != NAME) {
                 return false;
             }
             int word = words[i] >= Word.ESCAPED ? words[i] - Word.ESCAPED : words[i];
-            return word != Word.NO_WORD && (strict || word <= Word.LAST_RESERVED);
+            return word == Word.NO_WORD || !strict && word > Word.LAST_RESERVED;
         }
 
-        boolean evalOrArguments(int i) {
-            return kind(i) == NAME && (names[i] == EVAL || names[i] == ARGUMENTS);
+        static boolean evalOrArguments(int name) {
+            return name == EVAL || name == ARGUMENTS;
         }
 
         boolean asksForStrict(int i) {
-            return kind(i) == TEXT && words[i] == 1;
+            return i >= 0 && i < count && kinds[i] == TEXT && words[i] == 1;
         }
 
         boolean propertyName(int i) {
@@ -328,6 +326,7 @@ public final class SyntaxTree {
      */
     private static final class Tree {
         static final int NO_NODE = -1;
+        private static final int NO_KIND = -1;
         private static final int FIRST_ROOM = 64;
 
         private int[] kinds = new int[FIRST_ROOM];
@@ -349,7 +348,7 @@ public final class SyntaxTree {
         }
 
         int kind(int k) {
-            return has(k) ? kinds[k] : NO_NODE;
+            return has(k) ? kinds[k] : NO_KIND;
         }
 
         int value(int k) {
@@ -425,8 +424,10 @@ public final class SyntaxTree {
 
         int children(int k) {
             int end = behind(k);
+            int at = k + 1;
             int found = 0;
-            for (int at = k + 1; at < end; at = behind(at)) {
+            for (int n = 0; n < count && at < end; n++) {
+                at = behind(at);
                 found++;
             }
             return found;
@@ -543,19 +544,11 @@ public final class SyntaxTree {
         }
 
         final boolean atIdentifier() {
-            return tokens.kind(at) == Tokens.NAME && !tokens.reserved(at, code.strict);
+            return tokens.identifier(at, code.strict);
         }
 
         final boolean accept(int sign) {
-            boolean there = atSign(sign);
-            if (there) {
-                at++;
-            }
-            return there;
-        }
-
-        final boolean acceptWord(int word) {
-            boolean there = atWord(word);
+            boolean there = tokens.sign(at) == sign;
             if (there) {
                 at++;
             }
@@ -563,15 +556,17 @@ public final class SyntaxTree {
         }
 
         final void expect(int sign) {
-            if (!accept(sign)) {
+            if (tokens.sign(at) != sign) {
                 refuse(at);
             }
+            at++;
         }
 
         final void expectWord(int word) {
-            if (!acceptWord(word)) {
+            if (tokens.keyword(at) != word) {
                 refuse(at);
             }
+            at++;
         }
 
         final void guard(int depth) {
@@ -582,16 +577,20 @@ public final class SyntaxTree {
 
         /** Takes the name of a variable, parameter or function, or of what is caught. */
         final int boundName() {
-            if (!atIdentifier() || code.strict && tokens.evalOrArguments(at)) {
+            int name = tokens.name(at);
+            boolean forbidden = code.strict && Tokens.evalOrArguments(name);
+            if (forbidden || !tokens.identifier(at, code.strict)) {
                 refuse(at);
             }
             at++;
-            return tokens.name(at - 1);
+            return name;
         }
 
         /** Whether a statement may end here, be it with a semicolon that is not written. */
         final boolean statementEnds() {
-            return atSign(Sign.SEMICOLON) || atSign(Sign.CURLY_CLOSE) || atEnd() || tokens.line(at);
+            int sign = tokens.sign(at);
+            boolean end = tokens.kind(at) == Tokens.END;
+            return sign == Sign.SEMICOLON || sign == Sign.CURLY_CLOSE || end || tokens.line(at);
         }
 
         final void semicolon() {
@@ -717,7 +716,8 @@ public final class SyntaxTree {
         /** A function of either kind, or that of a getter or setter, which begins with its (. */
         private void function(int form, int depth) {
             guard(depth);
-            int made = functionHead(form);
+            int made = functionName(form);
+            parameters(made, form);
             int brace = at;
             expect(Sign.CURLY_OPEN);
             int body = tree.open(Kind.BODY, 0, brace);
@@ -742,40 +742,32 @@ public final class SyntaxTree {
             tree.close(made);
         }
 
-        private int functionHead(int form) {
-            if (form == Kind.FUNCTION) {
-                int made = tree.open(Kind.FUNCTION, 0, at);
+        private int functionName(int form) {
+            int kind = form == Kind.FUNCTION ? Kind.FUNCTION : Kind.FUNCTION_EXPRESSION;
+            int made = tree.open(kind, 0, at);
+            if (form == kind) {
                 at++;
-                tree.setValue(made, boundName());
-                parameters(made);
-                return made;
             }
-            int made = tree.open(Kind.FUNCTION_EXPRESSION, 0, at);
-            if (form == Kind.FUNCTION_EXPRESSION) {
-                at++;
-                if (!atSign(Sign.ROUND_OPEN)) {
-                    tree.setValue(made, boundName() + 1);
-                }
-                parameters(made);
-            } else {
-                accessorParameters(made, form);
+            if (form == Kind.FUNCTION) {
+                tree.setValue(made, boundName());
+            } else if (form == kind && !atSign(Sign.ROUND_OPEN)) {
+                tree.setValue(made, boundName() + 1);
             }
             return made;
         }
 
-        private void parameters(int made) {
+        private void parameters(int made, int form) {
             expect(Sign.ROUND_OPEN);
-            for (int n = 0; n <= Tokens.MOST && nextArgument(n); n++) {
+            if (form == Kind.GETTER) {
+                expect(Sign.ROUND_CLOSE);
+            } else if (form == Kind.SETTER) {
                 parameter(made);
+                expect(Sign.ROUND_CLOSE);
+            } else {
+                for (int n = 0; n <= Tokens.MOST && nextArgument(n); n++) {
+                    parameter(made);
+                }
             }
-        }
-
-        private void accessorParameters(int made, int form) {
-            expect(Sign.ROUND_OPEN);
-            if (form == Kind.SETTER) {
-                parameter(made);
-            }
-            expect(Sign.ROUND_CLOSE);
         }
 
         private void parameter(int made) {
@@ -804,17 +796,17 @@ public final class SyntaxTree {
             }
             code.strict = true;
             boolean named = tree.kind(made) == Kind.FUNCTION || tree.value(made) != 0;
-            boolean allowed = !named || mayBind(tree.where(made) + 1);
+            boolean allowed = !named || mayBeBound(tree.where(made) + 1);
             for (int k = made + 1; allowed && k < body; k++) {
-                allowed = mayBind(tree.where(k)) && !hasParameter(made, k, tree.value(k));
+                allowed = mayBeBound(tree.where(k)) && !hasParameter(made, k, tree.value(k));
             }
             if (!allowed) {
                 refuse(tree.where(body));
             }
         }
 
-        private boolean mayBind(int i) {
-            return !tokens.reserved(i, true) && !tokens.evalOrArguments(i);
+        private boolean mayBeBound(int i) {
+            return tokens.identifier(i, true) && !Tokens.evalOrArguments(tokens.name(i));
         }
 
         // ---- statements
@@ -955,7 +947,8 @@ public final class SyntaxTree {
             expression(COMMA, depth + 1, true);
             expect(Sign.ROUND_CLOSE);
             statement(depth + 1, labels.count());
-            if (acceptWord(Word.ELSE)) {
+            if (atWord(Word.ELSE)) {
+                at++;
                 statement(depth + 1, labels.count());
             }
             tree.close(made);
@@ -1311,10 +1304,12 @@ public final class SyntaxTree {
 
         private boolean clashes(int object, int kind, int name) {
             int end = tree.count();
-            for (int k = object + 1; k < end; k = tree.behind(k)) {
+            int k = object + 1;
+            for (int n = 0; n < end && k < end; n++) {
                 if (tree.value(k) == name && kindsClash(tree.kind(k), kind)) {
                     return true;
                 }
+                k = tree.behind(k);
             }
             return false;
         }
@@ -1486,8 +1481,7 @@ public final class SyntaxTree {
         private boolean assignable(int k) {
             int kind = tree.kind(k);
             if (kind == Kind.NAME) {
-                int name = tree.value(k);
-                return !code.strict || name != Tokens.EVAL && name != Tokens.ARGUMENTS;
+                return !(code.strict && Tokens.evalOrArguments(tree.value(k)));
             }
             return kind == Kind.MEMBER || kind == Kind.INDEX;
         }
