@@ -348,15 +348,15 @@ public final class SyntaxTree {
         }
 
         int kind(int k) {
-            return has(k) ? kinds[k] : NO_KIND;
+            return k >= 0 && k < count ? kinds[k] : NO_KIND;
         }
 
         int value(int k) {
-            return has(k) ? values[k] : 0;
+            return k >= 0 && k < count ? values[k] : 0;
         }
 
         int where(int k) {
-            return has(k) ? wheres[k] : 0;
+            return k >= 0 && k < count ? wheres[k] : 0;
         }
 
         void setKind(int k, int kind) {
