@@ -823,16 +823,13 @@ public final class SyntaxTree {
                     ifStatement(depth);
                     return;
                 case Word.DO:
-                    labels.markAsLoops(firstLabel);
-                    doStatement(depth);
+                    doStatement(depth, firstLabel);
                     return;
                 case Word.WHILE:
-                    labels.markAsLoops(firstLabel);
-                    whileStatement(depth);
+                    whileStatement(depth, firstLabel);
                     return;
                 case Word.FOR:
-                    labels.markAsLoops(firstLabel);
-                    int loop = openFor();
+                    int loop = openFor(firstLabel);
                     if (atWord(Word.VAR)) {
                         variables(depth, false);
                     } else {
@@ -841,10 +838,8 @@ public final class SyntaxTree {
                     forRest(loop, depth);
                     return;
                 case Word.CONTINUE:
-                    jump(Kind.CONTINUE);
-                    return;
                 case Word.BREAK:
-                    jump(Kind.BREAK);
+                    jump(atWord(Word.BREAK) ? Kind.BREAK : Kind.CONTINUE);
                     return;
                 case Word.RETURN:
                     returnStatement(depth);
@@ -863,9 +858,6 @@ public final class SyntaxTree {
                     return;
                 case Word.DEBUGGER:
                     debuggerStatement();
-                    return;
-                case Word.FUNCTION:
-                    refuse(at);
                     return;
                 default:
                     break;
@@ -903,6 +895,9 @@ public final class SyntaxTree {
         }
 
         private void expressionStatement(int depth) {
+            if (atWord(Word.FUNCTION)) {
+                refuse(at);
+            }
             int made = tree.open(Kind.EXPRESSION, 0, at);
             expression(COMMA, depth + 1, true);
             semicolon();
@@ -954,7 +949,8 @@ public final class SyntaxTree {
             tree.close(made);
         }
 
-        private void doStatement(int depth) {
+        private void doStatement(int depth, int firstLabel) {
+            labels.markAsLoops(firstLabel);
             int made = tree.open(Kind.DO, 0, at);
             at++;
             code.loops++;
@@ -968,7 +964,8 @@ public final class SyntaxTree {
             tree.close(made);
         }
 
-        private void whileStatement(int depth) {
+        private void whileStatement(int depth, int firstLabel) {
+            labels.markAsLoops(firstLabel);
             int made = tree.open(Kind.WHILE, 0, at);
             at++;
             expect(Sign.ROUND_OPEN);
@@ -980,7 +977,8 @@ public final class SyntaxTree {
             tree.close(made);
         }
 
-        private int openFor() {
+        private int openFor(int firstLabel) {
+            labels.markAsLoops(firstLabel);
             int made = tree.open(Kind.FOR, 0, at);
             at++;
             expect(Sign.ROUND_OPEN);
