@@ -41,6 +41,11 @@ public final class DepthTest {
         Script.refuses(times(100, "{") + "`if");
         Script.accepts(times(100, "{") + times(100, "}"));
         deepest(2, "if (`a) ;");
+        deepest(3, "if (a) { `; }");
+        deepest(3, "if (a) ; else { `; }");
+        deepest(3, "while (a) { `; }");
+        deepest(3, "with (a) { `; }");
+        deepest(3, "for (a in b) { `; }");
         deepest(2, "do `; while (a)");
         deepest(2, "for (;;) `;");
         deepest(3, "for (;;) for (;;) `;");
@@ -76,6 +81,12 @@ public final class DepthTest {
         deepest(2, "for (var a in `b) ;");
         deepest(2, "for (`a in b) ;");
         deepest(3, "for (a;;) for (`a;;) ;");
+        deepest(3, "do ; while ((`a))");
+        deepest(2, "for (;`a;) ;");
+        deepest(2, "for (;;`a) ;");
+        deepest(3, "for (;(`a);) ;");
+        Script.accepts("function f() {" + at(98, "return a") + "}");
+        Script.refuses("function f() {" + at(99, "return `a") + "}");
         Script.refuses(at(100, "for (;`a;) ;"));
         Script.refuses(at(100, "for (;;`a) ;"));
         Script.refuses(at(100, "do `; while (a)"));

@@ -143,6 +143,7 @@ public final class ExpressionTest {
         Script.means("new (a())()", "NEW(CALL(NAME:4))");
         Script.means("new (a().b)", "NEW(MEMBER:5(CALL(NAME:4)))");
         Script.means("new function () {}(a)", "NEW(FUNCEXPR(BODY) NAME:4)");
+        Script.means("new a(b in c)", "NEW(NAME:4 BINARY:15(NAME:5 NAME:6))");
         Script.means("new this", "NEW(THIS)");
         Script.means("new {}", "NEW(OBJECT)");
         Script.means("new [a]", "NEW(ARRAY(NAME:4))");
@@ -224,6 +225,10 @@ public final class ExpressionTest {
         Script.means("a ? b = c : d = e", "CONDITIONAL(NAME:4 ASSIGN(NAME:5 NAME:6) ASSIGN(NAME:7 NAME:8))");
         Script.means("a || b ? c : d || e",
             "CONDITIONAL(BINARY:1(NAME:4 NAME:5) NAME:6 BINARY:1(NAME:7 NAME:8))");
+        Script.means("a = b in c", "ASSIGN(NAME:4 BINARY:15(NAME:5 NAME:6))");
+        Script.means("a ? b in c : d in e",
+            "CONDITIONAL(NAME:4 BINARY:15(NAME:5 NAME:6) BINARY:15(NAME:7 NAME:8))");
+        Script.means("a, b in c", "COMMA(NAME:4 BINARY:15(NAME:5 NAME:6))");
         Script.means("a = b ? c : d", "ASSIGN(NAME:4 CONDITIONAL(NAME:5 NAME:6 NAME:7))");
         Script.means("a ? b : c, d", "COMMA(CONDITIONAL(NAME:4 NAME:5 NAME:6) NAME:7)");
         Script.means("a = b = c", "ASSIGN(NAME:4 ASSIGN(NAME:5 NAME:6))");
@@ -275,6 +280,8 @@ public final class ExpressionTest {
             Script.refuses("a = `" + word);
             Script.refuses("a + `\\" + word);
         }
+        Script.refuses("`\\break");
+        Script.refuses("`\\super");
         Script.refuses("`\\this");
         Script.refuses("`\\true");
         Script.refuses("`\\if (a) b");

@@ -67,6 +67,8 @@ public final class NodeTest {
         at("with (a) b", "0 0 2 4 4");
         at("switch (a) { case b: c; default: d }", "0 0 2 5 6 8 8 10 12 12");
         at("throw a", "0 0 1");
+        at("function f() { return a; return }", "0 0 4 5 6 8");
+        at("while (a) { continue; break }", "0 0 2 4 5 7");
         at("try { a } catch (b) { c } finally { d }", "0 0 1 2 2 4 8 9 9 11 12 13 13");
         at("(a)", "0 0 1");
         at("((a)).b", "0 0 5 2");

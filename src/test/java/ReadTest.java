@@ -33,6 +33,17 @@ public final class ReadTest {
         Check.answers("read()", x::read, 5);
         Check.answers("read() again", x::read, 1);
         Check.refusesIndex("the first tree is gone", () -> x.node(1, 0));
+        tell(x, "(a) if 1 \"use strict\"");
+        Check.refusesArgument("read() of more", x::read);
+        tell(x, "(a");
+        Check.refusesArgument("nothing of it is left", x::read);
+        Check.answers("place()", x::place, 2);
+        tell(x, "a; \n b");
+        Check.answers("read() of two", x::read, 5);
+        tell(x, "a; b;");
+        Check.answers("read() of as many", x::read, 5);
+        tell(x, "a");
+        Check.answers("read() of fewer", x::read, 3);
     }
 
     private static void refusedTokensAreUsedUp() {

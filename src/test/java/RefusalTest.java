@@ -93,6 +93,14 @@ public final class RefusalTest {
         Script.refuses("a: if (b) while (c) continue `a");
         Script.refuses("a: switch (b) { case c: while (d) continue `a }");
         Script.refuses("a: { b: while (c) { continue b; continue `a } }");
+        Script.refuses("a: { while (b) while (c) continue `a }");
+        Script.refuses("a: { for (;;) while (c) continue `a }");
+        Script.refuses("a: { do while (b) continue `a\nwhile (c) }");
+        Script.refuses("a: if (b) ; else while (c) continue `a");
+        Script.refuses("a: with (b) while (c) continue `a");
+        Script.refuses("a: { with (b) while (c) continue `a }");
+        Script.refuses("a: { (function () { while (b) ; }); while (c) continue `a }");
+        Script.accepts("a: while (b) if (c) ; else while (d) continue a");
         Script.accepts("while (a) { switch (b) { case c: continue; break } }");
         Script.accepts("while (a) { (function () { while (b) break; }); break }");
         Script.accepts("a: b: c: for (d in e) { continue a; continue b; continue c }");

@@ -10,6 +10,7 @@ public final class StatementTest {
         loops();
         forLoops();
         forInLoops();
+        inIsAnOperatorElsewhere();
         jumps();
         switches();
         tries();
@@ -169,6 +170,19 @@ public final class StatementTest {
         Script.refuses("for (a `\\in b) ;");
         Script.refuses("for ((a in b)`) ;");
         Script.refuses("for (var a in b, c in d`;;) ;");
+    }
+
+    private static void inIsAnOperatorElsewhere() {
+        String in = "BINARY:15(NAME:4 NAME:5)";
+        Script.parses("if (a in b) ;", "IF(" + in + " EMPTY)");
+        Script.parses("while (a in b) ;", "WHILE(" + in + " EMPTY)");
+        Script.parses("while (c, a in b) ;", "WHILE(COMMA(NAME:6 " + in + ") EMPTY)");
+        Script.parses("do ; while (a in b)", "DO(EMPTY " + in + ")");
+        Script.parses("with (a in b) ;", "WITH(" + in + " EMPTY)");
+        Script.parses("throw a in b", "THROW(" + in + ")");
+        Script.parses("switch (a in b) { case a in b: a in b }", "SWITCH(" + in + " CASE(" + in + " EXPRESSION(" + in + ")))");
+        Script.parses("function f() { return a in b }", "FUNCTION:9(BODY(RETURN(" + in + ")))");
+        Script.parses("for (;;) a in b", "FOR(NONE NONE NONE EXPRESSION(" + in + "))");
     }
 
     private static void jumps() {
