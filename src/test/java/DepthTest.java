@@ -11,6 +11,12 @@ public final class DepthTest {
         whatIsNotDeeper();
         functions();
         deepAndWide();
+        everyStatementAtTheEdge();
+        everyPartOfAStatement();
+        everyOperatorAtTheEdge();
+        everyBracketAtTheEdge();
+        everyFunctionAtTheEdge();
+        leftSidesAtTheEdge();
         Check.end();
     }
 
@@ -191,5 +197,189 @@ public final class DepthTest {
         Script.refuses(times(50, "for (var a = function () { ") + "`;");
         Script.accepts(times(50, "var a = {get a() { ") + times(50, "}};"));
         Script.refuses(times(50, "var a = {get a() { ") + "`;");
+    }
+
+    /** Of the depth 100 a statement may be, of 101 none, whatever it begins with. */
+    private static void everyStatementAtTheEdge() {
+        String[] statements = {";", "{}", "var a", "var a, b", "debugger", "break", "continue", "break x", "continue x"};
+        for (String statement : statements) {
+            // the label and the loop are two levels more
+            Script.accepts("x: while (y) " + at(98, statement));
+            Script.refuses("x: while (y) " + times(98, "{") + "`" + statement);
+        }
+        Script.accepts("(function () {" + at(97, "return") + "})");
+        Script.refuses("(function () {" + times(97, "{") + "`return");
+        String[] begins = {
+            ";", "{", "var", "if", "do", "while", "for", "continue", "break", "return", "with", "switch", "throw",
+            "try", "debugger", "function", "a", "a:", "(", "[", "- a", "1", "\"a\"", "@", "this", "new", "typeof", "class", ")"
+        };
+        for (String begin : begins) {
+            Script.refuses(times(100, "{") + "`" + begin);
+        }
+        Script.refuses(times(100, "{") + "`");
+        Script.accepts(times(100, "{") + times(100, "}"));
+    }
+
+    private static void everyPartOfAStatement() {
+        deepest(2, "{ `; }");
+        deepest(3, "{ ; ; { `; } }");
+        deepest(3, "{ { `; } }");
+        deepest(3, "if (a) `b");
+        deepest(3, "if (a) ; else `b");
+        deepest(3, "if ((`a)) ;");
+        deepest(3, "do { `; } while (a)");
+        deepest(3, "while ((`a)) ;");
+        deepest(3, "while (a) `b");
+        deepest(3, "for ((`a);;) ;");
+        deepest(3, "for (;;(`a)) ;");
+        deepest(3, "for (var a = (`b);;) ;");
+        deepest(3, "for (var a, c = (`b);;) ;");
+        deepest(3, "for (var a = (`b) in c) ;");
+        deepest(3, "for (var a in (`b)) ;");
+        deepest(3, "for ((`a) in b) ;");
+        deepest(3, "for (a[`b] in c) ;");
+        deepest(3, "for (a in (`b)) ;");
+        deepest(3, "for (a in b, `c) ;");
+        deepest(2, "for (var a in `b) ;");
+        deepest(3, "for (var a in b) `c");
+        deepest(3, "with ((`a)) ;");
+        deepest(3, "with (a) `b");
+        deepest(3, "switch ((`a)) {}");
+        deepest(3, "switch (a) { case b: `c }");
+        deepest(3, "switch (a) { default: `c }");
+        deepest(3, "switch (a) { case b: ; ; case (`c): }");
+        deepest(3, "a: `b");
+        deepest(3, "a: { `; }");
+        deepest(4, "a: b: `c");
+        deepest(3, "throw (`a)");
+        deepest(3, "throw a, `b");
+        deepest(3, "try { `; } catch (a) {}");
+        deepest(4, "try {} catch (a) { ; { `; } }");
+        deepest(3, "try {} catch (a) {} finally { `; }");
+        deepest(3, "var a = (`b)");
+        deepest(3, "var a = b, c = (`d)");
+        deepest(3, "var a = b + `c");
+        deepest(3, "(`a)");
+        Script.accepts(at(98, "do ; while (a, b)"));
+        Script.refuses(at(99, "do ; while (a, `b)"));
+        Script.accepts("function f() {" + at(97, "return (a)") + "}");
+        Script.refuses("function f() {" + at(98, "return (`a)") + "}");
+    }
+
+    private static void everyOperatorAtTheEdge() {
+        for (String prefix : "void typeof ++ -- + - ~ ! delete".split(" ")) {
+            deepest(3, prefix + " `a");
+            deepest(3, prefix + " `a.b");
+            deepest(4, prefix + " (`a)");
+            deepest(4, prefix + " a[`b]");
+        }
+        for (String operator : "|| && | ^ & == != === !== < > <= >= instanceof in << >> >>> + - * / %".split(" ")) {
+            deepest(3, "a " + operator + " `b");
+            deepest(4, "a " + operator + " b " + operator + " (`c)");
+            deepest(4, "a " + operator + " (`b)");
+            deepest(4, "a " + operator + " b(`c)");
+            deepest(4, "a " + operator + " - `b");
+        }
+        for (String sign : "= |= ^= &= <<= >>= >>>= += -= *= /= %=".split(" ")) {
+            deepest(3, "a " + sign + " `b");
+            deepest(4, "a " + sign + " b " + sign + " `c");
+            deepest(4, "a " + sign + " (`b)");
+        }
+        deepest(4, "a, b, c, (`d)");
+        deepest(4, "a, (`b)");
+        deepest(4, "a, b = `c");
+        deepest(3, "a ? `b : c");
+        deepest(4, "a ? (`b) : c");
+        deepest(4, "a ? b : (`c)");
+        deepest(4, "a ? b : - `c");
+        deepest(3, "new `a.b");
+        deepest(4, "new a[`b]");
+        deepest(3, "new `a(b)");
+        deepest(4, "new (`a)(b)");
+        deepest(4, "new new `a");
+        deepest(5, "new new a[`b]");
+        // + binds less than *: the right side of + holds that of *, but not the other way round
+        deepest(4, "a + b * `c");
+        deepest(4, "a * b + (`c)");
+        deepest(5, "a || b && c == `d");
+        deepest(4, "a == b && c || (`d)");
+    }
+
+    private static void everyBracketAtTheEdge() {
+        deepest(4, "((`a))");
+        deepest(4, "a[b][(`c)]");
+        deepest(4, "a[b[`c]]");
+        deepest(4, "a(b, (`c))");
+        deepest(4, "a((`b), c)");
+        deepest(3, "a()(`b)");
+        deepest(4, "a(b(`c))");
+        deepest(4, "new a((`b))");
+        deepest(4, "new a(b, - `c)");
+        deepest(4, "new a(b)((`c))");
+        deepest(4, "[(`a), b]");
+        deepest(4, "[a, b, (`c)]");
+        deepest(3, "[, , `a]");
+        deepest(5, "({a: (`b)})");
+        deepest(5, "({a: b, c: (`d)})");
+        deepest(4, "a = {b: `c}");
+        deepest(5, "a = {b: {c: `d}}");
+        // nothing stands in these
+        Script.accepts(at(99, "[]"));
+        Script.accepts(at(99, "[ , ]"));
+        Script.accepts(at(99, "a()()"));
+        Script.accepts(at(98, "new a()"));
+        Script.accepts(at(98, "({})"));
+        Script.accepts(at(98, "(function () {})"));
+        Script.accepts(at(98, "({get a() {}, set a(b) {}})"));
+    }
+
+    private static void everyFunctionAtTheEdge() {
+        // blocks have no declarations: the levels are functions, or brackets round an expression
+        for (String statement : new String[] {"`;", "`a", "`return", "`{}", "`function g() {}"}) {
+            String plain = statement.substring(1);
+            Script.refuses(times(100, "function f() {") + statement);
+            boolean fits = !plain.equals("a");
+            if (fits) {
+                Script.accepts(times(99, "function f() {") + plain + times(99, "}"));
+            } else {
+                Script.refuses(times(99, "function f() {") + statement);
+                Script.accepts(times(98, "function f() {") + plain + times(98, "}"));
+            }
+        }
+        deepest(4, "(function () { `; })");
+        deepest(5, "(function () { `a })");
+        deepest(4, "- function () { `; }");
+        deepest(4, "new function () { `; }");
+        deepest(4, "a + function () { `; }");
+        deepest(4, "a(function () { `; })");
+        deepest(4, "a[function () { `; }]");
+        deepest(4, "a ? function () { `; } : b");
+        deepest(3, "var a = function () { `; }");
+        deepest(3, "throw function () { `; }");
+        deepest(3, "if (function () { `; }) ;");
+        deepest(3, "for (function () { `; };;) ;");
+        deepest(3, "var a = {get b() { `; }}");
+        deepest(3, "var a = {set b(c) { `; }}");
+        deepest(4, "var a = {b: function () { `; }}");
+        deepest(5, "(function () { function f() {} { `; } })");
+        deepest(5, "(function () { function f() { `; } })");
+        deepest(3, "var a = function f(b, c, d) { `; }");
+    }
+
+    /** What stands to the left of an operator or a bracket is not deeper than the whole. */
+    private static void leftSidesAtTheEdge() {
+        String[] whole = {
+            "#.b", "#.b.c", "# ++", "#()", "#()()", "#().b()", "#[0]", "#(0)", "# + 0", "# * 0 + 0", "# = 0", "#.a += 0",
+            "#, 0", "#, 0, 0", "# ? 0 : 0", "# in 0", "# instanceof 0 || 0"
+        };
+        for (String text : whole) {
+            boolean more = text.contains("0");
+            Script.accepts(at(more ? 98 : 99, text.replace("#", "a")));
+            Script.refuses(at(100, text.replace("#", "`a")));
+            if (more) {
+                int zero = text.indexOf('0');
+                Script.refuses(at(99, text.substring(0, zero).replace("#", "a") + "`" + text.substring(zero)));
+            }
+        }
     }
 }

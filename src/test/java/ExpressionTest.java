@@ -191,7 +191,15 @@ public final class ExpressionTest {
     private static void everyBinaryOperator() {
         String[] operators = ("|| && | ^ & == != === !== < > <= >= instanceof in << >> >>> + - * / %").split(" ");
         for (int i = 0; i < operators.length; i++) {
-            Script.means("a " + operators[i] + " b", "BINARY:" + (i + 1) + "(NAME:4 NAME:5)");
+            String made = "BINARY:" + (i + 1);
+            Script.means("a " + operators[i] + " b", made + "(NAME:4 NAME:5)");
+            Script.means("- a " + operators[i] + " - b()", made + "(PREFIX:6(NAME:4) PREFIX:6(CALL(NAME:5)))");
+            Script.means("a() " + operators[i] + " b.c ++", made + "(CALL(NAME:4) POSTFIX:3(MEMBER:6(NAME:5)))");
+            Script.means("a ++ " + operators[i] + " new b(c)", made + "(POSTFIX:3(NAME:4) NEW(NAME:5 NAME:6))");
+            Script.means("a " + operators[i] + " (b, c)", made + "(NAME:4 COMMA(NAME:5 NAME:6))");
+            Script.means("a " + operators[i] + " b ? c : d", "CONDITIONAL(" + made + "(NAME:4 NAME:5) NAME:6 NAME:7)");
+            Script.means("a = b " + operators[i] + " c", "ASSIGN(NAME:4 " + made + "(NAME:5 NAME:6))");
+            Script.means("a, b " + operators[i] + " c", "COMMA(NAME:4 " + made + "(NAME:5 NAME:6))");
             Script.refuses("a " + operators[i] + "`");
             Script.refuses("a " + operators[i] + " `;");
         }

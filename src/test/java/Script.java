@@ -29,6 +29,12 @@ final class Script {
         scan();
     }
 
+    /** The tokens kind, word, name and line (1 when a line ends before it), as they are. */
+    Script(int[]... tokens) {
+        this.text = "";
+        this.tokens.addAll(Arrays.asList(tokens));
+    }
+
     private static Map<String, Integer> signs() {
         String[] operators = "|| && | ^ & == != === !== < > <= >= instanceof in << >> >>> + - * / %".split(" ");
         String[] others = "( ) [ ] { } . ; , ? : ! ~ ++ --".split(" ");
@@ -142,17 +148,75 @@ final class Script {
         return x;
     }
 
-    /** KIND:value(children), the value left out when it is 0; or where the script is refused. */
     static String tree(String text) {
-        SyntaxTree x = told(text);
+        return new Script(text).tree();
+    }
+
+    /** KIND:value(children), the value left out when it is 0; or where the script is refused. */
+    String tree() {
+        SyntaxTree x = new SyntaxTree();
+        tell(x);
+        StringBuilder out = new StringBuilder();
+        int nodes;
         try {
-            int nodes = x.read();
-            StringBuilder out = new StringBuilder();
-            int end = write(x, 0, out);
-            return end == nodes ? out.toString() : "not in preorder: " + out;
+            nodes = x.read();
         } catch (IllegalArgumentException refused) {
-            return "refused at " + x.place();
+            out.append("refused at ").append(x.place());
+            behindRefusal(x, x.place(), out);
+            return out.toString();
         }
+        if (write(x, 0, out) != nodes) {
+            out.append(" not in preorder");
+        }
+        edges(x, nodes, out);
+        return out.toString();
+    }
+
+    private static void expect(String call, String got, String due, StringBuilder out) {
+        if (!got.equals(due)) {
+            out.append(", but ").append(call).append(" answered ").append(got).append(", not ").append(due);
+        }
+    }
+
+    /** Promises 3 to 6 of the calls behind a refused read: no node is there, and the tokens are used up. */
+    private static void behindRefusal(SyntaxTree x, int place, StringBuilder out) {
+        for (int what = 0; what <= 3; what++) {
+            int asked = what;
+            expect("node(0, " + what + ")", Check.answer(() -> x.node(0, asked)), "IndexOutOfBoundsException", out);
+        }
+        expect("node(0, 4)", Check.answer(() -> x.node(0, 4)), "IllegalArgumentException", out);
+        expect("child(0, 0)", Check.answer(() -> x.child(0, 0)), "IndexOutOfBoundsException", out);
+        expect("place() again", Check.answer(x::place), String.valueOf(place), out);
+        usedUp(x, out);
+    }
+
+    /** Promises 4 to 6 just outside of every node and every child of a tree. */
+    private static void edges(SyntaxTree x, int nodes, StringBuilder out) {
+        expect("place()", Check.answer(x::place), "-1", out);
+        for (int what = 0; what <= 3; what++) {
+            int asked = what;
+            expect("node behind the last", Check.answer(() -> x.node(nodes, asked)), "IndexOutOfBoundsException", out);
+            expect("node -1", Check.answer(() -> x.node(-1, asked)), "IndexOutOfBoundsException", out);
+        }
+        expect("child of the node behind the last", Check.answer(() -> x.child(nodes, 0)), "IndexOutOfBoundsException", out);
+        for (int k = 0; k < nodes; k++) {
+            int node = k;
+            int children = x.node(k, 1);
+            expect("node(" + k + ", -1)", Check.answer(() -> x.node(node, -1)), "IllegalArgumentException", out);
+            expect("node(" + k + ", 4)", Check.answer(() -> x.node(node, 4)), "IllegalArgumentException", out);
+            expect("child(" + k + ", -1)", Check.answer(() -> x.child(node, -1)), "IndexOutOfBoundsException", out);
+            expect("child behind the last of " + k, Check.answer(() -> x.child(node, children)),
+                "IndexOutOfBoundsException", out);
+        }
+        usedUp(x, out);
+    }
+
+    private static void usedUp(SyntaxTree x, StringBuilder out) {
+        expect("read() without tokens", Check.answer(x::read), "1", out);
+        expect("place() behind it", Check.answer(x::place), "-1", out);
+        expect("node(0, 0) behind it", Check.answer(() -> x.node(0, 0)), "0", out);
+        expect("node(1, 0) behind it", Check.answer(() -> x.node(1, 0)), "IndexOutOfBoundsException", out);
+        expect("token() behind it", Check.answer(() -> x.token(5, 0, 0, false)), "1", out);
     }
 
     private static int write(SyntaxTree x, int k, StringBuilder out) {
@@ -206,7 +270,8 @@ final class Script {
 
     static void accepts(String text) {
         String got = tree(text);
-        Check.same(text, got.startsWith("PROGRAM") ? "a tree" : got, "a tree");
+        boolean tree = got.startsWith("PROGRAM") && !got.contains("but");
+        Check.same(text, tree ? "a tree" : got, "a tree");
     }
 
     /** Checks that the script is refused at the token that stands behind the mark ` in the text. */

@@ -4,6 +4,8 @@ public final class SemicolonTest {
     }
 
     public static void main(String[] args) {
+        whereEveryStatementEnds();
+        wherePutInIsNothing();
         atLines();
         atBraces();
         atTheEnd();
@@ -14,6 +16,57 @@ public final class SemicolonTest {
         beforeIncreases();
         behindDo();
         Check.end();
+    }
+
+    /** Each statement that ends with a semicolon: with it, without it at a line or }, and without both. */
+    private static void whereEveryStatementEnds() {
+        String[] statements = {
+            "a", "a = b", "a ++", "var b", "var b = c", "do ; while (a)", "continue", "break", "continue x", "break x",
+            "return", "return a", "throw a", "debugger", "\"a\"", "@", "(a)", "a = function () {}", "new a", "this"
+        };
+        for (String s : statements) {
+            String ahead = "function f() { x: while (y) { " + s;
+            Script.accepts(ahead + "; } }");
+            Script.accepts(ahead + "\n; } }");
+            Script.accepts(ahead + " } }");
+            Script.accepts(ahead + "\n} }");
+            Script.accepts(ahead + "\nvar z } }");
+            Script.accepts(ahead + "; var z } }");
+            Script.refuses(ahead + " `var z } }");
+            Script.refuses(ahead + " `) } }");
+            Script.refuses(ahead + "\n`) } }");
+            Script.refuses(ahead + " `else } }");
+            Script.refuses(ahead + "\n`else } }");
+            Script.refuses(ahead + "`");
+            Script.refuses(ahead + ";`");
+        }
+        String[] programs = {"a", "a = b", "a ++", "var b", "var b = c", "do ; while (a)", "throw a", "debugger", "\"a\""};
+        for (String s : programs) {
+            Script.accepts(s);
+            Script.accepts(s + ";");
+            Script.accepts(s + "\n" + s);
+            Script.refuses(s + " `var z");
+            Script.refuses(s + "`}");
+            Script.refuses(s + "\n`}");
+        }
+    }
+
+    /** A statement that no semicolon ends takes none in, and one that stands there is an EMPTY. */
+    private static void wherePutInIsNothing() {
+        Script.parses("{} a", "BLOCK EXPRESSION(NAME:4)");
+        Script.parses("{};", "BLOCK EMPTY");
+        Script.parses("if (a) {} b", "IF(NAME:4 BLOCK) EXPRESSION(NAME:5)");
+        Script.parses("if (a) {} else {} b", "IF(NAME:4 BLOCK BLOCK) EXPRESSION(NAME:5)");
+        Script.refuses("if (a) {}; `else b");
+        Script.parses("while (a) {} b", "WHILE(NAME:4 BLOCK) EXPRESSION(NAME:5)");
+        Script.parses("for (;;) {};", "FOR(NONE NONE NONE BLOCK) EMPTY");
+        Script.parses("switch (a) {} b", "SWITCH(NAME:4) EXPRESSION(NAME:5)");
+        Script.parses("try {} finally {};", "TRY(BLOCK FINALLY(BLOCK)) EMPTY");
+        Script.parses("function f() {};", "FUNCTION:9(BODY) EMPTY");
+        Script.parses("a;;", "EXPRESSION(NAME:4) EMPTY");
+        Script.parses("a\n;;", "EXPRESSION(NAME:4) EMPTY");
+        Script.parses("a\n;\n;", "EXPRESSION(NAME:4) EMPTY");
+        Script.parses("\n\n", "");
     }
 
     private static void atLines() {
@@ -104,6 +157,16 @@ public final class SemicolonTest {
         Script.refuses("do\nwhile (a)`");
         Script.refuses("{ a: `}");
         Script.refuses("with (a)\n`");
+        String[] heads = {
+            "if (a)", "if (a) ; else", "while (a)", "for (;;)", "for (a in b)", "for (var a in b)", "with (a)", "x:", "do"
+        };
+        for (String head : heads) {
+            Script.refuses(head + "`");
+            Script.refuses("{ " + head + "`}");
+            Script.refuses("{ " + head + "\n`}");
+            Script.refuses(head + "\n`else");
+            Script.refuses("switch (a) { case b: " + head + "\n`case c: }");
+        }
         Script.parses("while (a)\nb", "WHILE(NAME:4 EXPRESSION(NAME:5))");
         Script.parses("if (a)\n; else\nb", "IF(NAME:4 EMPTY EXPRESSION(NAME:5))");
     }
@@ -115,6 +178,13 @@ public final class SemicolonTest {
         Script.refuses("for (a\n`");
         Script.refuses("for (var a\n`b;;) ;");
         Script.refuses("for (a; b\n`c) ;");
+        Script.refuses("for (a\n`b\n) ;");
+        Script.refuses("for (;\n`) ;");
+        Script.refuses("for (;;\n`");
+        Script.refuses("for (var a = b\n`c;;) ;");
+        Script.refuses("for (a in b\n`c) ;");
+        Script.parses("for (a = function () { b\nc };;) d",
+            "FOR(ASSIGN(NAME:4 FUNCEXPR(BODY(EXPRESSION(NAME:5) EXPRESSION(NAME:6)))) NONE NONE EXPRESSION(NAME:7))");
         Script.parses("for (a\n;\nb\n;\nc\n)\nd", "FOR(NAME:4 NAME:5 NAME:6 EXPRESSION(NAME:7))");
     }
 
