@@ -10,6 +10,7 @@ public final class ReadTest {
         aTreeIsReplaced();
         longPrograms();
         nothingIsKeptBetweenReads();
+        longerProgramsLeaveNothing();
         Check.end();
     }
 
@@ -104,5 +105,38 @@ public final class ReadTest {
         Check.answers("literals are numbered anew", x::read, 5);
         Check.answers("first literal", () -> x.node(2, 2), 0);
         Check.answers("second literal", () -> x.node(4, 2), 1);
+    }
+
+    /** The beginning of a program is read behind the whole of it as it is by a new object. */
+    private static void longerProgramsLeaveNothing() {
+        String[] programs = {
+            "var a = b, c", "a: while (b) break a", "a: for (;;) continue a", "function f(a, b) { \"use strict\"; return a }",
+            "a.b(c)[d] ++", "({get a() {}, set a(b) {}, c: d})", "try {} catch (a) {} finally {}", "a\nb\n++ c",
+            "\"use strict\"; \"a\"; b", "if (a) b; else c", "for (var a = 1 in b) ;", "new a(b)", "a ? b : c = d",
+            "switch (a) { case b: default: }", "do ; while (a)", "throw @, 1, \"a\"", "[a, , b]", "- typeof a",
+        };
+        for (String program : programs) {
+            Script whole = new Script(program);
+            for (int n = 0; n < whole.tokens.size(); n++) {
+                Script part = new Script(whole.tokens.subList(0, n).toArray(new int[0][]));
+                SyntaxTree used = tell(new SyntaxTree(), program);
+                Check.same("read() of " + program, Check.answer(used::read).startsWith("I"), false);
+                SyntaxTree fresh = new SyntaxTree();
+                part.tell(used);
+                part.tell(fresh);
+                String what = "the first " + n + " of " + program;
+                String nodes = Check.answer(fresh::read);
+                Check.same(what, Check.answer(used::read), nodes);
+                Check.same("place() of " + what, used.place(), fresh.place());
+                for (int k = 0; k <= 2 * n + 1; k++) {
+                    for (int about = 0; about <= 3; about++) {
+                        int node = k;
+                        int asked = about;
+                        Check.same("node(" + k + ", " + about + ") of " + what,
+                            Check.answer(() -> used.node(node, asked)), Check.answer(() -> fresh.node(node, asked)));
+                    }
+                }
+            }
+        }
     }
 }
